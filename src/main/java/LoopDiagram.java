@@ -301,7 +301,8 @@ public final class LoopDiagram {
             int right = left + 1;
             int leftEnd = slot(state, left);
             int rightEnd = slot(state, right);
-            if (leftEnd == FULL || rightEnd == FULL || slot(state, CLOSED) == 1) {
+            // The right point needs no look: of its edges only the upper one came before this.
+            if (leftEnd == FULL || slot(state, CLOSED) == 1) {
                 return DEAD;
             }
             int next = put(put(state, left, FULL), right, FULL);

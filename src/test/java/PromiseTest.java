@@ -112,9 +112,7 @@ final class PromiseTest {
 
     static void promise04ClueIsSetChangedAndTakenAway() {
         LoopDiagram x = grid();
-        int[] due = {5, 0, 0, 4, 4, 4, 13};
-        int[] clues = {4, 4, 4, 3, 3, 1, -1};
-        // With a whole cell as the loop, its neighbour has one side in it.
+        // All sides of a cell are a loop, of which its neighbour has one side.
         x.clue(0, 0, 4);
         Check.same("clueOf(0, 0)", x.clueOf(0, 0), 4);
         Check.same("count()", x.count(), 1);
@@ -161,7 +159,7 @@ final class PromiseTest {
     static void promise05CountWithClues() {
         LoopDiagram x = grid();
         x.clue(0, 0, 3);
-        // The cell is inside and one neighbour with it, or outside and all the others inside: no, that is two.
+        // Ranks 6, 7, 11 and 12: the cell is inside with one neighbour, the opposite cell may be too.
         Check.same("count() with a 3", x.count(), 4);
         x.clue(1, 1, 0);
         Check.same("count() with a 0 opposite", x.count(), 0);
@@ -438,11 +436,15 @@ final class PromiseTest {
         x.clue(0, 1, 1);
         x.clue(1, 0, 1);
         x.clue(1, 1, 0);
-        // The 4 goes first: the two ones and the 0 leave just that cell. Then nothing more but the 0 may.
-        Check.same("spare()", x.spare(), stay(x));
-        Check.same("count()", x.count(), 1);
-        int again = x.spare();
-        Check.same("spare() again", again, stay(x));
+        // The 0 alone would do, so all that come before it go.
+        for (int times = 0; times < 2; times++) {
+            Check.same("spare()", x.spare(), 1);
+            Check.same("count()", x.count(), 1);
+            Check.same("clueOf(0, 0)", x.clueOf(0, 0), -1);
+            Check.same("clueOf(0, 1)", x.clueOf(0, 1), -1);
+            Check.same("clueOf(1, 0)", x.clueOf(1, 0), -1);
+            Check.same("clueOf(1, 1)", x.clueOf(1, 1), 0);
+        }
     }
 
     static void promise18SpareGoesRowByRow() {
@@ -497,13 +499,5 @@ final class PromiseTest {
         for (int[] cell : cells) {
             Check.fails("clueOf of no cell", OUT, () -> x.clueOf(cell[0], cell[1]));
         }
-    }
-
-    private static int stay(LoopDiagram x) {
-        int stay = 0;
-        for (int cell = 0; cell < 4; cell++) {
-            stay += x.clueOf(cell / 2, cell % 2) == LoopDiagram.NONE ? 0 : 1;
-        }
-        return stay;
     }
 }
