@@ -5,7 +5,9 @@ import java.util.Comparator;
 
 /** Runs each static method without arguments of the test classes; ends with exit code 1 if one fails. */
 public final class AllTests {
-    private static final Class<?>[] CLASSES = {FaceTest.class, PromiseTest.class, OracleTest.class};
+    private static final Class<?>[] CLASSES = {
+        FaceTest.class, PromiseTest.class, TermsTest.class, BoundaryTest.class, RefusedTest.class, OracleTest.class,
+    };
 
     public static void main(String[] args) throws IllegalAccessException {
         int passed = 0;

@@ -1,5 +1,12 @@
+import java.util.NoSuchElementException;
+
 /** What the tests ask of an answer; a test fails with the first one that is not as due. */
 final class Check {
+    static final Class<IndexOutOfBoundsException> OUT = IndexOutOfBoundsException.class;
+    static final Class<NoSuchElementException> NO_SUCH = NoSuchElementException.class;
+    static final Class<IllegalArgumentException> WRONG = IllegalArgumentException.class;
+    static final Class<IllegalStateException> STATE = IllegalStateException.class;
+
     interface Call {
         void run();
     }
@@ -15,6 +22,12 @@ final class Check {
     static void same(String what, boolean got, boolean due) {
         if (got != due) {
             throw new AssertionError(what + " answered " + got + ", due is " + due);
+        }
+    }
+
+    static void same(String what, String got, String due) {
+        if (!got.equals(due)) {
+            throw new AssertionError(what + " is " + got + ", due is " + due);
         }
     }
 

@@ -2,30 +2,32 @@ import java.lang.reflect.Constructor;
 import java.lang.reflect.Field;
 import java.lang.reflect.Method;
 import java.lang.reflect.Modifier;
+import java.util.Arrays;
 import java.util.Set;
 import java.util.TreeSet;
 
 /** The class has the document's face and no other. */
 final class FaceTest {
+    /** Each method with the exceptions that it names, in their order. */
     private static final Set<String> FACE = Set.of(
             "int edges()",
-            "int point(int,boolean)",
-            "void clue(int,int,int)",
+            "int point(int,boolean) IndexOutOfBoundsException",
+            "void clue(int,int,int) IndexOutOfBoundsException IllegalArgumentException",
             "int count()",
-            "int width(int,boolean)",
+            "int width(int,boolean) IndexOutOfBoundsException",
             "int nodes()",
-            "boolean has(int,int)",
-            "int length(int)",
-            "int often(int)",
-            "boolean draw(int)",
-            "void copy(int)",
+            "boolean has(int,int) NoSuchElementException IndexOutOfBoundsException",
+            "int length(int) NoSuchElementException",
+            "int often(int) IndexOutOfBoundsException",
+            "boolean draw(int) IndexOutOfBoundsException",
+            "void copy(int) NoSuchElementException",
             "int drawn()",
             "boolean isLoop()",
-            "int rank()",
+            "int rank() NoSuchElementException",
             "int above()",
             "int alive()",
-            "int spare()",
-            "int clueOf(int,int)");
+            "int spare() IllegalStateException",
+            "int clueOf(int,int) IndexOutOfBoundsException");
 
     static void methodsAreThoseOfTheDocument() {
         Set<String> open = new TreeSet<>();
@@ -50,7 +52,11 @@ final class FaceTest {
         for (Class<?> type : method.getParameterTypes()) {
             told.append(told.charAt(told.length() - 1) == '(' ? "" : ",").append(type);
         }
-        return told.append(')').toString();
+        told.append(')');
+        for (Class<?> exception : method.getExceptionTypes()) {
+            told.append(' ').append(exception.getSimpleName());
+        }
+        return told.toString();
     }
 
     static void fieldsArePrivateButForTheConstant() {
@@ -68,5 +74,7 @@ final class FaceTest {
         Constructor<?>[] constructors = LoopDiagram.class.getDeclaredConstructors();
         Check.same("constructors", constructors.length, 1);
         Check.same("public", Modifier.isPublic(constructors[0].getModifiers()), true);
+        Check.same("parameters", Arrays.toString(constructors[0].getParameterTypes()), "[int, int]");
+        Check.same("exceptions", constructors[0].getExceptionTypes().length, 0);
     }
 }
