@@ -7,6 +7,7 @@ import java.util.Comparator;
 public final class AllTests {
     private static final Class<?>[] CLASSES = {
         FaceTest.class, PromiseTest.class, TermsTest.class, BoundaryTest.class, RefusedTest.class, OracleTest.class,
+        ReadmeTest.class,
     };
 
     public static void main(String[] args) throws IllegalAccessException {
